@@ -1,0 +1,113 @@
+import java.util.Random;
+
+/** Drawn runs of calls, each answer compared with the Oracle's. */
+final class ComparisonTest {
+    private static final Checks CHECKS = new Checks();
+
+    public static void main(String[] args) {
+        for (int run = 0; run < 200; run++) {
+            compareRun(run, new Random(run));
+        }
+        drawsAreTheSame();
+        CHECKS.end();
+    }
+
+    private static void compareRun(int run, Random random) {
+        int kind = random.nextInt(4) - 1;
+        SeedMakers made = new SeedMakers(kind);
+        Oracle due = new Oracle(kind);
+        compareState("run " + run + " new", made, due);
+        for (int i = 0; i < 12; i++) {
+            String where = "run " + run + " step " + i;
+            set(where, made, due, random);
+            long seed = random.nextInt(4) == 0 ? random.nextInt(20) : random.nextLong();
+            int tries = random.nextInt(9) == 0 ? random.nextInt(3) * 41 - 41 : 1 + random.nextInt(4);
+            CHECKS.same(where + " make", made.make(seed, tries), due.make(seed, tries));
+            compareState(where, made, due);
+            type(made, due, random);
+            CHECKS.same(where + " answers", made.answers(), due.answers());
+        }
+    }
+
+    private static void set(String where, SeedMakers made, Oracle due, Random random) {
+        int k = random.nextInt(6) - 1;
+        boolean known = k >= 0 && k <= 3;
+        CHECKS.same(where + " symmetry", made.symmetry(k) ? 1 : 0, known ? 1 : 0);
+        due.symmetry = known ? k : due.symmetry;
+        for (int i = random.nextInt(4); i > 0; i--) {
+            int cell = random.nextInt(due.cells);
+            int what = random.nextInt(3);
+            made.theme(cell, what);
+            due.themes[cell] = what;
+        }
+        if (random.nextInt(5) == 0) {
+            for (int cell = 0; cell < due.cells; cell++) {
+                made.theme(cell, 0);
+                due.themes[cell] = 0;
+            }
+        }
+        if (random.nextInt(2) == 0) {
+            due.aimEasy = random.nextInt(3);
+            due.aimLeast = random.nextInt(2) * random.nextInt(due.cells / 2);
+            due.aimMost = due.aimLeast + random.nextInt(due.cells);
+            made.aim(due.aimEasy, due.aimLeast, due.aimMost);
+        }
+    }
+
+    private static void compareState(String where, SeedMakers made, Oracle due) {
+        for (int what = -1; what <= 7; what++) {
+            CHECKS.same(where + " told(" + what + ")", made.told(what), due.told(what));
+        }
+        CHECKS.same(where + " left", made.left(), due.left());
+        for (int cell = 0; cell < due.cells; cell++) {
+            String at = where + " cell " + cell;
+            CHECKS.same(at + " given", made.given(cell), due.puzzle == null ? -1 : due.puzzle[cell]);
+            CHECKS.same(at + " answer", made.answer(cell), due.puzzle == null ? -1 : due.solution[cell]);
+            CHECKS.same(at + " needed", made.needed(cell) ? 1 : 0, due.needed(cell) ? 1 : 0);
+            CHECKS.same(at + " text", made.text(cell), due.text(cell));
+        }
+        for (int k = 0; k <= 3; k++) {
+            int kept = due.symmetry;
+            made.symmetry(k);
+            due.symmetry = k;
+            int cell = (kept * 7 + k) % due.cells;
+            CHECKS.same(where + " needed by " + k, made.needed(cell) ? 1 : 0, due.needed(cell) ? 1 : 0);
+            made.symmetry(kept);
+            due.symmetry = kept;
+        }
+    }
+
+    /** Mostly part of a whole answer, sometimes with a byte changed, cut off or added. */
+    private static void type(SeedMakers made, Oracle due, Random random) {
+        Oracle drawn = new Oracle(due.n == 4 ? 0 : 1);
+        drawn.x = random.nextLong();
+        int[] whole = drawn.drawWhole();
+        int gaps = random.nextInt(11);
+        int length = random.nextInt(4) == 0 ? random.nextInt(62) : due.cells;
+        int changed = random.nextInt(2) == 0 ? random.nextInt(due.cells) : -1;
+        for (int i = 0; i < length; i++) {
+            int b = i >= due.cells || random.nextInt(10) < gaps ? '.' : '1' + whole[i];
+            if (i == changed) {
+                b = random.nextInt(3) == 0 ? random.nextInt(260) - 2 : '0' + random.nextInt(9);
+            }
+            CHECKS.same("unit(" + b + ")", made.unit(b) ? 1 : 0, due.unit(b) ? 1 : 0);
+        }
+    }
+
+    /**
+     * Going through every choice of a draw, in both kinds, shows that the cell with the fewest symbols always has
+     * one: no seed comes to a RESTART, so what can be looked at is that none is told and that X is as due.
+     */
+    private static void drawsAreTheSame() {
+        for (int kind = 0; kind <= 1; kind++) {
+            for (long seed = -100; seed < 100; seed++) {
+                SeedMakers made = new SeedMakers(kind);
+                Oracle due = new Oracle(kind);
+                CHECKS.same("make by seed " + seed, made.make(seed, 1), due.make(seed, 1));
+                CHECKS.same("restarts by seed " + seed, made.told(1), 0);
+                CHECKS.same("restarts by seed " + seed, due.told(1), 0);
+                CHECKS.same("X by seed " + seed, made.told(6), due.told(6));
+            }
+        }
+    }
+}

@@ -57,7 +57,13 @@ public final class SeedMakers {
         if (tries < 1 || tries > MOST_TRIES) {
             return -2;
         }
-        return maker.run(seed, tries);
+        maker.startAt(seed);
+        for (int i = 1; i <= tries; i++) {
+            if (maker.tryOnce()) {
+                return i;
+            }
+        }
+        return -1;
     }
 
     public int given(int cell) throws ArrayIndexOutOfBoundsException {
@@ -273,9 +279,7 @@ public final class SeedMakers {
             inRow = new int[grid.side];
             inColumn = new int[grid.side];
             inBox = new int[grid.side];
-            for (int cell = 0; cell < grid.cells; cell++) {
-                symbols[cell] = -1;
-            }
+            clear();
         }
 
         void clear() {
@@ -359,8 +363,12 @@ public final class SeedMakers {
          * cell that is tried here, so nothing has to be put in order again behind it.
          */
         private void search(int openCells) {
-            if (openCells < 1 || openCells > open.length) {
+            if (openCells < 1) {
                 found++;
+                return;
+            }
+            // Never so: it shows that the search goes no deeper than there are cells.
+            if (openCells > open.length) {
                 return;
             }
             int at = tightest(openCells);
@@ -568,33 +576,36 @@ public final class SeedMakers {
             without = new int[grid.cells];
         }
 
-        int run(long seed, int tries) {
+        void startAt(long seed) {
             made = false;
             triesMade = 0;
             restarts = 0;
             takenOut = 0;
             putBack = 0;
             chance.startAt(seed);
-            for (int i = 0; i < tries && !made; i++) {
-                triesMade++;
-                made = tryOnce();
-            }
-            return made ? triesMade : -1;
         }
 
-        /** True when the try is good. */
-        private boolean tryOnce() {
+        /** True when the try is good: then what it came to is the puzzle. */
+        boolean tryOnce() {
+            triesMade++;
             if (!drawWhole() || !takeOutEmptySets()) {
                 return false;
             }
             int length = layRow();
             mixRow(length);
             for (int i = 0; i < length; i++) {
-                takeOutIfSpare(row[i]);
+                takenOut++;
+                if (needsSet(row[i])) {
+                    putBack++;
+                } else {
+                    // needsSet() has just laid out the givens without the set.
+                    System.arraycopy(without, 0, givens, 0, givens.length);
+                }
             }
             givenCells = countGivens();
             unknownCells = singles.countUnknown(givens);
-            return aimed.isMet(givenCells, unknownCells == 0);
+            made = aimed.isMet(givenCells, unknownCells == 0);
+            return made;
         }
 
         private boolean drawWhole() {
@@ -656,16 +667,6 @@ public final class SeedMakers {
                 int kept = row[i];
                 row[i] = row[j];
                 row[j] = kept;
-            }
-        }
-
-        private void takeOutIfSpare(int set) {
-            takenOut++;
-            if (needsSet(set)) {
-                putBack++;
-            } else {
-                // needsSet() has just laid out the givens without the set.
-                System.arraycopy(without, 0, givens, 0, givens.length);
             }
         }
 

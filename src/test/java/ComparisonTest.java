@@ -1,11 +1,11 @@
 import java.util.Random;
 
-/** Drawn runs of calls, each answer compared with the Oracle's. */
+/** Drawn runs of at most 512 calls, each answer compared with the Oracle's. */
 final class ComparisonTest {
     private static final Checks CHECKS = new Checks();
 
     public static void main(String[] args) {
-        for (int run = 0; run < 200; run++) {
+        for (int run = 0; run < 600; run++) {
             compareRun(run, new Random(run));
         }
         drawsAreTheSame();
@@ -16,17 +16,17 @@ final class ComparisonTest {
         int kind = random.nextInt(4) - 1;
         SeedMakers made = new SeedMakers(kind);
         Oracle due = new Oracle(kind);
-        compareState("run " + run + " new", made, due);
-        for (int i = 0; i < 12; i++) {
+        for (int i = 0; i < 3; i++) {
             String where = "run " + run + " step " + i;
             set(where, made, due, random);
             long seed = random.nextInt(4) == 0 ? random.nextInt(20) : random.nextLong();
             int tries = random.nextInt(9) == 0 ? random.nextInt(3) * 41 - 41 : 1 + random.nextInt(4);
             CHECKS.same(where + " make", made.make(seed, tries), due.make(seed, tries));
-            compareState(where, made, due);
+            compareTold(where, made, due);
             type(made, due, random);
             CHECKS.same(where + " answers", made.answers(), due.answers());
         }
+        compareState("run " + run, made, due);
     }
 
     private static void set(String where, SeedMakers made, Oracle due, Random random) {
@@ -54,11 +54,14 @@ final class ComparisonTest {
         }
     }
 
-    private static void compareState(String where, SeedMakers made, Oracle due) {
+    private static void compareTold(String where, SeedMakers made, Oracle due) {
         for (int what = -1; what <= 7; what++) {
             CHECKS.same(where + " told(" + what + ")", made.told(what), due.told(what));
         }
         CHECKS.same(where + " left", made.left(), due.left());
+    }
+
+    private static void compareState(String where, SeedMakers made, Oracle due) {
         for (int cell = 0; cell < due.cells; cell++) {
             String at = where + " cell " + cell;
             CHECKS.same(at + " given", made.given(cell), due.puzzle == null ? -1 : due.puzzle[cell]);

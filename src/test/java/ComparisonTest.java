@@ -97,10 +97,7 @@ final class ComparisonTest {
         }
     }
 
-    /**
-     * Going through every choice of a draw, in both kinds, shows that the cell with the fewest symbols always has
-     * one: no seed comes to a RESTART, so what can be looked at is that none is told and that X is as due.
-     */
+    /** DeadEndTest shows why there is no RESTART to be told of. */
     private static void drawsAreTheSame() {
         for (int kind = 0; kind <= 1; kind++) {
             for (long seed = -100; seed < 100; seed++) {

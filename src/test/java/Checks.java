@@ -21,6 +21,14 @@ final class Checks {
         same(what, got ? 1 : 0, 0);
     }
 
+    void alike(String what, String got, String due) {
+        made++;
+        if (!got.equals(due)) {
+            wrong++;
+            System.out.println(what + " is " + got + ", due is " + due);
+        }
+    }
+
     /** Exactly this class: a class above or below it is not what the document names. */
     void throwsExactly(String what, Class<? extends RuntimeException> due, Runnable call) {
         made++;

@@ -1,4 +1,6 @@
 /**
+ * "when it may have none, a RESTART (all are empty again)" and "With the 200th RESTART the try FAILS."
+ *
  * Goes through every choice that a draw of a WHOLE can make, and counts the ends. There is no dead one, so no seed
  * can bring about a RESTART: that is why the other tests ask for 0 of them and can't look at the 200th.
  */

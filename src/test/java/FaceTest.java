@@ -6,7 +6,7 @@ import java.util.Arrays;
 import java.util.Set;
 import java.util.TreeSet;
 
-/** The class has the document's face and shows nothing else. */
+/** "The public face": the class has it and shows nothing else. */
 final class FaceTest {
     private static final Checks CHECKS = new Checks();
     private static final String INDEX = " throws ArrayIndexOutOfBoundsException";

@@ -146,10 +146,14 @@ final class Oracle {
         return false;
     }
 
-    /** One single at a time, and then all over again. */
     int unknown(int[] givens) {
+        return unknownBy(givens, 15);
+    }
+
+    /** One single at a time, and then all over again; looked for as bits: 1 by cell, 2 row, 4 column, 8 box. */
+    int unknownBy(int[] givens, int looked) {
         int[] grid = givens.clone();
-        while (placeSingle(grid)) {
+        while (placeSingle(grid, looked)) {
             continue;
         }
         int count = 0;
@@ -159,16 +163,16 @@ final class Oracle {
         return count;
     }
 
-    private boolean placeSingle(int[] grid) {
+    private boolean placeSingle(int[] grid, int looked) {
         for (int cell = 0; cell < cells; cell++) {
             if (grid[cell] < 0) {
                 List<Integer> some = may(grid, cell);
-                if (some.size() == 1) {
+                if (some.size() == 1 && (looked & 1) != 0) {
                     grid[cell] = some.get(0);
                     return true;
                 }
                 for (int s : some) {
-                    if (isAlone(grid, cell, s)) {
+                    if (isAlone(grid, cell, s, looked)) {
                         grid[cell] = s;
                         return true;
                     }
@@ -178,11 +182,11 @@ final class Oracle {
         return false;
     }
 
-    private boolean isAlone(int[] grid, int cell, int symbol) {
+    private boolean isAlone(int[] grid, int cell, int symbol, int looked) {
         int width = n == 4 ? 2 : 3;
-        boolean inRow = true;
-        boolean inColumn = true;
-        boolean inBox = true;
+        boolean inRow = (looked & 2) != 0;
+        boolean inColumn = (looked & 4) != 0;
+        boolean inBox = (looked & 8) != 0;
         for (int other = 0; other < cells; other++) {
             if (other != cell && grid[other] < 0 && fits(grid, other, symbol)) {
                 inRow &= other / n != cell / n;

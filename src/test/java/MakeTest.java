@@ -67,7 +67,7 @@ final class MakeTest {
         CHECKS.same("givens", late.told(4), 9);
     }
 
-    /** Promise 5: "with X the seed at first": with each make() anew, whatever was before. */
+    /** Promise 5: "with X the seed at first" ("X is told by make()"): with each make() anew, whatever was before. */
     private static void seedAtFirst() {
         for (int kind : Sample.BOTH_KINDS) {
             for (long seed : new long[] {0, 1, -1, Long.MIN_VALUE, Long.MAX_VALUE}) {
@@ -131,7 +131,27 @@ final class MakeTest {
             made.aim(0, cells, cells);
             CHECKS.same("none is good", made.make(1, 2), -1);
             Sample.noPuzzle(CHECKS, made, kind);
+            noneIsGoodByThemes(kind);
         }
+    }
+
+    /** The tries fail before they have a puzzle at all. */
+    private static void noneIsGoodByThemes(int kind) {
+        int last = Sample.cellsOf(kind) - 1;
+        SeedMakers clash = new SeedMakers(kind);
+        clash.theme(0, 1);
+        clash.theme(last, 2);
+        CHECKS.same("one before", clash.make(1, 1), 1);
+        clash.symmetry(1);
+        CHECKS.same("a GIVEN cell is among the EMPTY", clash.make(1, 2), -1);
+        Sample.noPuzzle(CHECKS, clash, kind);
+        SeedMakers empty = new SeedMakers(kind);
+        CHECKS.same("one before", empty.make(1, 1), 1);
+        for (int cell = 0; cell <= last; cell++) {
+            empty.theme(cell, 2);
+        }
+        CHECKS.same("there is more than one answer", empty.make(1, 2), -1);
+        Sample.noPuzzle(CHECKS, empty, kind);
     }
 
     /** Promise 5: "-2, doing nothing, when tries is not 1 .. 40." */

@@ -4,6 +4,7 @@ final class TermsTest {
 
     public static void main(String[] args) {
         oneAnswer();
+        untilItIsMet();
         makesOnly512Times();
         typesOnly512Times();
         isRefusedOnly512Times();
@@ -45,6 +46,34 @@ final class TermsTest {
                 }
             }
         }
+    }
+
+    /**
+     * "with places that have to be given or empty, until what is aimed at is met": no try fewer is enough, and what is
+     * made is all of it.
+     */
+    private static void untilItIsMet() {
+        int late = 0;
+        for (long seed = 0; seed < 40; seed++) {
+            SeedMakers made = new SeedMakers(1);
+            made.symmetry(1);
+            made.theme(0, 1);
+            made.theme(2, 2);
+            made.aim(1, 10, 12);
+            int took = made.make(seed, 40);
+            if (took > 1) {
+                late++;
+                CHECKS.same("one try fewer", made.make(seed, took - 1), -1);
+                CHECKS.same("so many", made.make(seed, took), took);
+            }
+            if (took > 0) {
+                CHECKS.holds("given", made.given(0) >= 0 && made.given(35) >= 0);
+                CHECKS.holds("empty", made.given(2) < 0 && made.given(33) < 0);
+                CHECKS.holds("givens as aimed at", made.told(4) >= 10 && made.told(4) <= 12);
+                CHECKS.same("easy as aimed at", made.told(5), 1);
+            }
+        }
+        CHECKS.holds("some were met late", late > 0);
     }
 
     /** "An object is used for at most 512 calls after it has been made": the last of them, behind the dearest ones. */

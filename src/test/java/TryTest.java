@@ -314,8 +314,19 @@ final class TryTest {
         CHECKS.holds("both kinds were seen", hard > 0 && hard < 60);
     }
 
-    /** "EASY: by singles alone all cells come to be known": one cell that does not is one too many. */
+    /** "EASY: by singles alone all cells come to be known": the fewest that do not are still too many. */
     private static void allCellsComeToBeKnown() {
+        // Of thousands of seeds these leave the fewest cells.
+        long[] nearlyEasy = {1825, 2490, 3926};
+        for (long seed : nearlyEasy) {
+            SeedMakers made = new SeedMakers(1);
+            made.aim(1, 0, 36);
+            CHECKS.same("it is not EASY", made.make(seed, 1), -1);
+            made.aim(2, 0, 36);
+            CHECKS.same("it is one of the others", made.make(seed, 1), 1);
+            CHECKS.same("left", made.left(), 11);
+            CHECKS.same("easy", made.told(5), 0);
+        }
         int some = 0;
         for (long seed = 0; seed < 100; seed++) {
             SeedMakers made = new SeedMakers(1);

@@ -1,4 +1,5 @@
 import java.util.Random;
+import java.util.function.IntSupplier;
 
 /** Drawn runs of at most 512 calls, each answer compared with the Oracle's. */
 final class ComparisonTest {
@@ -9,6 +10,9 @@ final class ComparisonTest {
             compareRun(run, new Random(run));
         }
         drawsAreTheSame();
+        for (int run = 0; run < 300; run++) {
+            callInAnyOrder(run, new Random(-1 - run));
+        }
         CHECKS.end();
     }
 
@@ -109,5 +113,87 @@ final class ComparisonTest {
                 CHECKS.same("X by seed " + seed, made.told(6), due.told(6));
             }
         }
+    }
+
+    /** 512 calls of all methods, with arguments that are refused among them. */
+    private static void callInAnyOrder(int run, Random random) {
+        int kind = random.nextInt(2);
+        SeedMakers made = new SeedMakers(kind);
+        Oracle due = new Oracle(kind);
+        for (int call = 1; call <= 512; call++) {
+            String where = "run " + run + " call " + call;
+            int cell = random.nextInt(due.cells + 2) - 1;
+            boolean isCell = cell >= 0 && cell < due.cells;
+            switch (random.nextInt(12)) {
+                case 0 -> callSettings(where, made, due, random, cell);
+                case 1 -> {
+                    int tries = random.nextInt(8) == 0 ? random.nextInt(2) * 41 : 1 + random.nextInt(3);
+                    long seed = random.nextLong();
+                    CHECKS.same(where + " make", made.make(seed, tries), due.make(seed, tries));
+                }
+                case 2 -> callOfCell(where + " given", isCell, () -> made.given(cell), () -> due.given(cell));
+                case 3 -> callOfCell(where + " answer", isCell, () -> made.answer(cell), () -> due.answer(cell));
+                case 4 -> {
+                    int what = random.nextInt(9) - 1;
+                    CHECKS.same(where + " told(" + what + ")", made.told(what), due.told(what));
+                }
+                case 5 -> CHECKS.same(where + " left", made.left(), due.left());
+                case 6 -> callOfCell(where + " needed", isCell, () -> made.needed(cell) ? 1 : 0,
+                        () -> due.needed(cell) ? 1 : 0);
+                case 7 -> CHECKS.same(where + " text(" + cell + ")", made.text(cell), due.text(cell));
+                default -> callText(where, made, due, random);
+            }
+        }
+    }
+
+    private static void callSettings(String where, SeedMakers made, Oracle due, Random random, int cell) {
+        int one = random.nextInt(6) - 1;
+        int least = random.nextInt(due.cells / 3) - 1;
+        int most = least + random.nextInt(due.cells) - 1;
+        switch (random.nextInt(3)) {
+            case 0 -> {
+                CHECKS.same(where + " symmetry(" + one + ")", made.symmetry(one) ? 1 : 0, one >= 0 && one <= 3 ? 1 : 0);
+                due.symmetry = one >= 0 && one <= 3 ? one : due.symmetry;
+            }
+            case 1 -> {
+                boolean isCell = cell >= 0 && cell < due.cells;
+                boolean isTheme = one >= 0 && one <= 2;
+                CHECKS.throwsExactly(where + " theme(" + cell + ", " + one + ")",
+                        !isCell ? Sample.INDEX : !isTheme ? Sample.ARGUMENT : null, () -> made.theme(cell, one));
+                if (isCell && isTheme) {
+                    due.themes[cell] = one;
+                }
+            }
+            default -> {
+                boolean isAim = one >= 0 && one <= 2 && least >= 0 && least <= most;
+                CHECKS.throwsExactly(where + " aim(" + one + ", " + least + ", " + most + ")",
+                        isAim ? null : Sample.ARGUMENT, () -> made.aim(one, least, most));
+                if (isAim) {
+                    due.aimEasy = one;
+                    due.aimLeast = least;
+                    due.aimMost = most;
+                }
+            }
+        }
+    }
+
+    private static void callOfCell(String where, boolean isCell, IntSupplier made, IntSupplier due) {
+        if (isCell) {
+            CHECKS.same(where, made.getAsInt(), due.getAsInt());
+        } else {
+            CHECKS.throwsExactly(where, Sample.INDEX, made::getAsInt);
+        }
+    }
+
+    /** Mostly one more byte that fits, so that some texts come to be full ones, and longer ones. */
+    private static void callText(String where, SeedMakers made, Oracle due, Random random) {
+        int told = due.text.size();
+        boolean asks = random.nextInt(told == due.cells ? 2 : 60) == 0;
+        if (asks) {
+            CHECKS.same(where + " answers", made.answers(), due.answers());
+            return;
+        }
+        int u = random.nextInt(40) == 0 ? random.nextInt(300) - 20 : due.nextByte(random);
+        CHECKS.same(where + " unit(" + u + ")", made.unit(u) ? 1 : 0, due.unit(u) ? 1 : 0);
     }
 }

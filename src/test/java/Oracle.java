@@ -315,4 +315,22 @@ final class Oracle {
         }
         return puzzle[i] < 0 ? '.' : '1' + puzzle[i];
     }
+
+    int given(int cell) {
+        return puzzle == null ? -1 : puzzle[cell];
+    }
+
+    int answer(int cell) {
+        return puzzle == null ? -1 : solution[cell];
+    }
+
+    /** A byte that can be next in the text, or a point. */
+    int nextByte(java.util.Random random) {
+        int[] grid = emptyGrid();
+        for (int i = 0; i < text.size() && i < cells; i++) {
+            grid[i] = text.get(i) == '.' ? -1 : text.get(i) - '1';
+        }
+        List<Integer> some = text.size() < cells ? may(grid, text.size()) : List.of();
+        return some.isEmpty() || random.nextInt(2) == 0 ? '.' : '1' + some.get(random.nextInt(some.size()));
+    }
 }
